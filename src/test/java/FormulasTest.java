@@ -85,6 +85,8 @@ public final class FormulasTest extends Asking {
     made("a (b [c] d e f g h i j k).", "a_b_c_d_e_f_g_h_i_j_k,a_b_d_e_f_g_h_i_j_k");
     made("(a b)(c d e f g h i j k).", "a_b_c_d_e_f_g_h_i_j_k");
     made("(abcde)(fghij klm nopqrstu).", "abcde_fghij_klm_nopqrstu");
+    made("(abcdefgh ij)(abcdefgh klb).", "abcdefgh_ij_abcdefgh_klb");
+    made("(abcdefgh ij)(abcdefgh kla).", "abcdefgh_ij_abcdefgh_kla");
     made("(abcdefgh ijk)(lmnopqrs tu).", "abcdefgh_ijk_lmnopqrs_tu");
   }
 
@@ -180,6 +182,8 @@ public final class FormulasTest extends Asking {
     spentBy(ten + twenty + "z.", false);
     spentBy("(a|b|c|d|e|f|g|h|i|j|k|l|m|n|o)(a|b|c|d|e|f|g|h|i|j|k|l|m|n).", true);
     InscribedStones x = new InscribedStones();
+    due("P8 spent", Due.formula(x, twenty + "[" + ten + "]."), STATE);
+    due("P8 and a fault", Due.formula(x, "((a"), -23);
     Due.formula(x, twenty + ten + ".");
     due("P9 200 texts", x.texts(0), 200);
     same("P10 the 200th", Due.text(x, 0, 199), "t_j");
@@ -222,6 +226,8 @@ public final class FormulasTest extends Asking {
     due("P10 k -1", x.text(0, 1, -1), NONE);
     due("P10 k wide", x.text(0, 1, Integer.MAX_VALUE), NONE);
     due("P10 i 3", x.text(0, 3, 0), NONE);
+    due("P10 i 3, k 11", x.text(0, 3, 11), NONE);
+    due("P10 i 3, k 23", x.text(0, 3, 23), NONE);
     due("P10 i -1", x.text(0, -1, 0), NONE);
     due("P10 i wide", x.text(0, Integer.MAX_VALUE, 0), NONE);
     due("P10 i least", x.text(0, Integer.MIN_VALUE, 0), NONE);
@@ -327,9 +333,13 @@ public final class FormulasTest extends Asking {
     x.read(0, 0, 0, 1, 2, 1 << 3 | 1 << 4);
     due("P13 d alone", x.carried(0, 0, 1, 0), 3);
     due("P13 no ways", x.carried(0, 0, 2, 1), NONE);
+    x.stone(2, 5);
+    due("P11 of another line", x.ways(1, 1, 0), 3);
+    due("P13 of the first line still", x.carried(0, 0, 1, 0), 3);
+    due("P13 of another line", x.carried(1, 0, 1, 0), NONE);
     due("P13 no formula", x.carried(0, 0, 0, 2), BAD);
     due("P13 formula -1", x.carried(0, 0, 0, -1), BAD);
-    due("P13 no stone", x.carried(1, 0, 0, 0), BAD);
+    due("P13 no stone", x.carried(2, 0, 0, 0), BAD);
     due("P13 no line", x.carried(0, 1, 0, 0), BAD);
     due("P13 no place", x.carried(0, 0, 5, 0), BAD);
     due("P13 place -1", x.carried(0, 0, -1, 0), BAD);
