@@ -254,6 +254,8 @@ public final class FormulasTest extends Asking {
     due("P12 abcd", x.way(0, 1, 0, 1), 4);
     due("P12 no more", x.way(0, 1, 0, 2), NONE);
     due("P11 the other line", x.ways(0, 0, 0), 5);
+    due("P12 of this line again", x.way(0, 1, 0, 0), 3);
+    due("P12 of the other line", x.way(0, 0, 0, 0), 0);
     x.read(0, 0, 1, 3, 1, 26);
     due("P11 a blank behind", x.ways(0, 1, 0), 1);
     due("P12 ab still", x.way(0, 1, 0, 0), 3);
